@@ -1448,12 +1448,9 @@ public final class KeyFists {
     /** EVENTS by CLOCKS that are off, and FACTS about them. */
     private static final class Clocks {
         private static final int MOST = 12;
-        // True time stands among the CLOCKS as one that is ahead by 0.
-        private static final int TRUE_TIME = STATIONS;
-        private static final int NODES = STATIONS + 1;
 
-        private final int[] leasts = new int[NODES];
-        private final int[] greatests = new int[NODES];
+        private final int[] leasts = new int[STATIONS];
+        private final int[] greatests = new int[STATIONS];
         private final int[] stations = new int[MOST];
         private final int[] minutes = new int[MOST];
         private int events;
@@ -1461,8 +1458,8 @@ public final class KeyFists {
         private final int[] earliers = new int[MOST];
         private final int[] gaps = new int[MOST];
         private int facts;
-        // By how much at most the second CLOCK is ahead of the first one.
-        private final int[][] mostAhead = new int[NODES][NODES];
+        // By how much at most the CLOCK of the second STATION is ahead of that of the first one.
+        private final int[][] mostAhead = new int[STATIONS][STATIONS];
 
         int events() {
             return events;
@@ -1516,9 +1513,9 @@ public final class KeyFists {
         boolean canBe() {
             boundByClocks();
             boundByFacts();
-            for (int through = 0; through < NODES; through++) {
+            for (int through = 0; through < STATIONS; through++) {
                 tightenThrough(through);
-                // A look at each round keeps the numbers from growing where no end is.
+                // A look in each round: what contradicts would grow from round to round.
                 if (contradicts()) {
                     return false;
                 }
@@ -1527,8 +1524,8 @@ public final class KeyFists {
         }
 
         private void boundByClocks() {
-            for (int one = 0; one < NODES; one++) {
-                for (int other = 0; other < NODES; other++) {
+            for (int one = 0; one < STATIONS; one++) {
+                for (int other = 0; other < STATIONS; other++) {
                     mostAhead[one][other] = one == other ? 0 : greatests[other] - leasts[one];
                 }
             }
@@ -1546,8 +1543,8 @@ public final class KeyFists {
         }
 
         private void tightenThrough(int through) {
-            for (int one = 0; one < NODES; one++) {
-                for (int other = 0; other < NODES; other++) {
+            for (int one = 0; one < STATIONS; one++) {
+                for (int other = 0; other < STATIONS; other++) {
                     int most = mostAhead[one][through] + mostAhead[through][other];
                     mostAhead[one][other] = Math.min(mostAhead[one][other], most);
                 }
@@ -1555,8 +1552,8 @@ public final class KeyFists {
         }
 
         private boolean contradicts() {
-            for (int node = 0; node < NODES; node++) {
-                if (mostAhead[node][node] < 0) {
+            for (int station = 0; station < STATIONS; station++) {
+                if (mostAhead[station][station] < 0) {
                     return true;
                 }
             }

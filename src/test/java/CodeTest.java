@@ -95,6 +95,9 @@ public final class CodeTest {
         fault("1", 0);
         fault("lette", 0);
         fault("letters e 1;", 0);
+        fault("better e 1;", 0);
+        fault("letten e 1;", 0);
+        fault("cord a is eee;", 0);
         fault("Letter e 1;", 0);
         fault("leTter e 1;", 0);
         fault("letter e 1;\t", 11);
@@ -122,6 +125,8 @@ public final class CodeTest {
         fault("letter e 0;", 9);
         fault("letter e 13;", 9);
         fault("letter e 01;", 9);
+        fault("letter e 10;", 9);
+        fault("letter e 19;", 9);
         fault("letter e 11111;", -1);
         fault("letter e 22222;", -1);
         fault("letter e 111111;", 9);
@@ -140,6 +145,10 @@ public final class CodeTest {
         fault(e + "word 1 is tee;", 27);
         fault(e + "word ; is tee;", 27);
         fault(e + "word a was tee;", 29);
+        fault(e + "word a as tee;", 29);
+        fault(e + "word a it tee;", 29);
+        fault(e + "word as is tee;word it is eee;word wore is ttt;word better is tet;", -1);
+        fault(e + "word ab is tee;word cb is eee;word ac is ete;word ab is ttt;", 72);
         fault(e + "word a tee;", 29);
         fault(e + "word a is te;", 32);
         fault(e + "word a is teet;", 32);
@@ -161,6 +170,7 @@ public final class CodeTest {
         String e = "letter e 1;letter t 2;";
         fault(e + "word a is tee;word a is ett;", 41);
         fault(e + "word a is tee;word b is tee;", 46);
+        fault("letter a 1;letter e 2;letter t 1;", 31);
         fault(e + "word a is tee;word aa is ete;word ab is eet;", -1);
         // alike is what is of one kind alone
         fault(e + "word e is tee;word t is eee;", -1);

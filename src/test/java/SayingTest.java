@@ -55,7 +55,7 @@ public final class SayingTest {
         x.line(0, 1, 0, 0);
         Due.tape(x, 10, 10, 30);
         String[] said = {"a", "ee", "e e", "et", "tt", "t e"};
-        String[] unsaid = {"e", "t", "aa", "ea", "e a", "eee", "e e e", "b", "eb", "bb"};
+        String[] unsaid = {"z", "azaz", "e", "t", "aa", "ea", "e a", "eee", "e e e", "b", "eb", "bb"};
         for (String text : said) {
             Due.text(x, text);
             due.is("suspects of '" + text + "'", x.suspects(-1), 1);
