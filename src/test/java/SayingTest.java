@@ -55,7 +55,7 @@ public final class SayingTest {
         x.line(0, 1, 0, 0);
         Due.tape(x, 10, 10, 30);
         String[] said = {"a", "ee", "e e", "et", "tt", "t e"};
-        String[] unsaid = {"z", "azaz", "e", "t", "aa", "ea", "e a", "eee", "e e e", "b", "eb", "bb"};
+        String[] unsaid = {"z", "azaz", "e", "t", "aa", "ea", "e a", "eee", "e e e", "b", "eb", "bb", "ab", "a b", "eeb", "e eb", "ba"};
         for (String text : said) {
             Due.text(x, text);
             due.is("suspects of '" + text + "'", x.suspects(-1), 1);
@@ -245,6 +245,10 @@ public final class SayingTest {
         due.is("key of 61 marks", x.key(0, 0, 0), -1);
         due.is("key of 61 marks, all bitten", x.key(0, 1, 0), -1);
         due.is("lengths", x.count(4), 119);
+        due.is("suspects of one letter more than the TAPE has", x.suspects(-1), 0);
+        due.is("likelier of one letter more than the TAPE has", x.likelier(0, 0, 0), -1);
+        Due.text(x, text.toString());
+        due.is("suspects of what the TAPE has", x.suspects(-1), 1);
         Due.text(x, "e" + text.substring(1));
         due.is("key of 59 marks", x.key(0, 0, 0), 117);
         due.is("key of 59 marks, all bitten", x.key(0, 1, 0), 0);
