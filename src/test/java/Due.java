@@ -102,4 +102,14 @@ final class Due {
         }
         return text.toString();
     }
+
+    /** A CODE of the letters a, b and c and so many WORDS, 20 at most; its GROUPS count up from aaa. */
+    static String words(int many) {
+        StringBuilder text = new StringBuilder("letter a 1;letter b 2;letter c 11;");
+        for (int word = 0; word < many; word++) {
+            text.append("word ").append((char) ('a' + word)).append(" is ").append((char) ('a' + word / 9))
+                .append((char) ('a' + word / 3 % 3)).append((char) ('a' + word % 3)).append(';');
+        }
+        return text.toString();
+    }
 }

@@ -21,6 +21,7 @@ public final class EdgesOfClocksTest {
         numbersThatAgree();
         factsThatContradict();
         clocksThatContradictAFact();
+        factsOfEachTwoStations();
         eventsThatNoFactNames();
         throughOtherStations();
         apartLeastAndGreatest();
@@ -300,20 +301,60 @@ public final class EdgesOfClocksTest {
         due.is("a CLOCK that agrees again", x.clock(0, 30, 40), true);
         apart(x, 0, 1, 30, 40);
         // both of one STATION: no CLOCK can change how they are apart
-        KeyFists y = new KeyFists();
-        y.event(3, 10);
-        y.event(3, 20);
-        y.clock(3, -60, 60);
-        apart(y, 0, 1, 10, 10);
-        y.fact(1, 0, 10);
-        apart(y, 0, 1, 10, 10);
-        y.fact(0, 1, -10);
-        apart(y, 0, 1, 10, 10);
-        y.fact(0, 1, -9);
-        apart(y, 0, 1, VOID, VOID);
-        y.undo();
-        y.fact(1, 0, 11);
-        apart(y, 0, 1, VOID, VOID);
+        for (int station = 0; station < 6; station++) {
+            byOneClock(station);
+        }
+    }
+
+    private static void byOneClock(int station) {
+        KeyFists x = new KeyFists();
+        x.event(station, 10);
+        x.event(station, 20);
+        for (int other = 0; other < 6; other++) {
+            x.clock(other, -60, 60);
+            x.event(other, 15);
+        }
+        apart(x, 0, 1, 10, 10);
+        x.fact(1, 0, 10);
+        apart(x, 0, 1, 10, 10);
+        x.fact(0, 1, -10);
+        apart(x, 0, 1, 10, 10);
+        x.fact(0, 1, -9);
+        for (int event = 0; event < 8; event++) {
+            apart(x, event, 7 - event, VOID, VOID);
+            due.is("first(" + event + ", " + event + ")", x.first(event, event), NONE);
+        }
+        x.undo();
+        apart(x, 0, 1, 10, 10);
+        x.fact(1, 0, 11);
+        apart(x, 0, 1, VOID, VOID);
+        apart(x, 2, 7, VOID, VOID);
+    }
+
+    /** By how little FACTS of any two STATIONS contradict: by one MINUTE. */
+    private static void factsOfEachTwoStations() {
+        for (int one = 0; one < 6; one++) {
+            for (int other = 0; other < 6; other++) {
+                if (one == other) {
+                    continue;
+                }
+                KeyFists x = new KeyFists();
+                for (int station = 0; station < 6; station++) {
+                    x.clock(station, -60, 60);
+                    x.event(station, 500);
+                }
+                x.fact(one, other, 7);
+                x.fact(other, one, -7);
+                apart(x, other, one, 7, 7);
+                apart(x, one, other, -7, -7);
+                x.undo();
+                x.fact(other, one, -6);
+                apart(x, other, one, VOID, VOID);
+                for (int station = 0; station < 6; station++) {
+                    apart(x, station, station, VOID, VOID);
+                }
+            }
+        }
     }
 
     private static void eventsThatNoFactNames() {

@@ -325,12 +325,7 @@ public final class EdgesOfHandsTest {
         for (int what = 0; what < 10; what++) {
             due.is("count(" + what + ") at first", x.count(what), 0);
         }
-        StringBuilder words = new StringBuilder("letter a 1;letter b 2;letter c 11;");
-        for (int word = 0; word < 20; word++) {
-            words.append("word ").append((char) ('a' + word)).append(" is ").append((char) ('a' + word / 9))
-                .append((char) ('a' + word / 3 % 3)).append((char) ('a' + word % 3)).append(';');
-        }
-        Due.code(x, words.toString());
+        Due.code(x, Due.words(20));
         for (int times = 0; times < 25; times++) {
             x.feed(0, 0, 0, 0, 0);
         }

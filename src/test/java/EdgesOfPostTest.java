@@ -32,6 +32,7 @@ public final class EdgesOfPostTest {
         tapByTheMinutesOfBeginning();
         tapNoneSuch();
         theLongestPost();
+        aHundredMinutesOfBeginning();
         due.end();
     }
 
@@ -548,5 +549,29 @@ public final class EdgesOfPostTest {
         where(x, 19, 200, 0, 1339, 0, 1340, 10, 1399, 10, 1400, 11, 1639, 14, 1640, 5, 5000, 5);
         due.is("tap(4, 19)", x.tap(4, 19), 19);
         due.is("tap(5, -1)", x.tap(5, NONE), 0);
+    }
+
+    /** Twenty MESSAGES through five LINES each: in each of these 100 MINUTES one begins alone. */
+    private static void aHundredMinutesOfBeginning() {
+        KeyFists x = ring();
+        for (int message = 0; message < 20; message++) {
+            x.message(5, (190 - 10 * message) * 100 + 2, 0);
+        }
+        for (int message = 0; message < 20; message++) {
+            int minute = 190 - 10 * message;
+            sent(x, message, minute + 10, 0);
+            where(x, message, minute - 1, NONE, minute, 10, minute + 1, 10, minute + 2, 11, minute + 9, 14, minute + 10, 5);
+            due.is("tap(4, " + message + ")", x.tap(4, message), 19 - message);
+        }
+        // and all through one LINE after the other
+        KeyFists y = ring();
+        for (int message = 0; message < 20; message++) {
+            y.message(5, message + 1, 0);
+        }
+        int begins = 0;
+        for (int message = 0; message < 20; message++) {
+            begins += message;
+            sent(y, message, begins + 5 * (message + 1), begins);
+        }
     }
 }

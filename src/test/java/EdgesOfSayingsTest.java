@@ -30,6 +30,7 @@ public final class EdgesOfSayingsTest {
         keyOfNoSaying();
         keyOfALetterWithoutMarks();
         keyOfMoreThan120Lengths();
+        keyOfMoreThan120LengthsByTheLastLetter();
         keyInPlaceOfTheTape();
         nothingOrLessLeft();
         goneAtTheEnds();
@@ -552,6 +553,34 @@ public final class EdgesOfSayingsTest {
             due.is("the text stays", x.count(8), of[1].length());
             Due.text(x, of[0]);
             due.is("the TAPE still says what was keyed", x.suspects(NONE), 1);
+        }
+    }
+
+    /** The last letter, of one to five MARKS, is what makes it 60 marks, or 61. */
+    private static void keyOfMoreThan120LengthsByTheLastLetter() {
+        String letters = "eimshz";
+        for (int marks = 1; marks <= 5; marks++) {
+            KeyFists x = new KeyFists();
+            Due.code(x, "letter e 1;letter i 11;letter m 222;letter s 1112;letter h 21222;letter z 11111;");
+            x.hand(20020, 50050, 15015, 30030, 70070);
+            x.line(0, 1, 0, 0);
+            char last = letters.charAt(marks - 1);
+            for (String gap : new String[] {"", " "}) {
+                Due.text(x, times("e", 60 - marks) + gap + last);
+                due.is("key of 60 marks with '" + gap + last + "'", x.key(0, 0, 0), 119);
+                due.is("its suspects", x.suspects(NONE), 1);
+                Due.text(x, times("e", 61 - marks) + gap + last);
+                due.is("key of 61 marks with '" + gap + last + "'", x.key(0, 0, 0), NONE);
+                due.is("lengths then", x.count(4), 119);
+                due.is("suspects of 61 marks", x.suspects(NONE), 0);
+                due.is("likelier of 61 marks", x.likelier(0, 0, 0), NONE);
+                Due.text(x, times("e", 60) + gap + last);
+                due.is("key of " + (60 + marks) + " marks", x.key(0, 0, 0), NONE);
+                Due.text(x, last + gap + times("e", 60 - marks));
+                due.is("key of 60 marks with it first", x.key(0, 0, 0), 119);
+                Due.text(x, last + gap + times("e", 61 - marks));
+                due.is("key of 61 marks with it first", x.key(0, 0, 0), NONE);
+            }
         }
     }
 

@@ -90,8 +90,8 @@ public final class EdgesOfTextTest {
     private static void theLastCallOfAll() {
         KeyFists x = new KeyFists();
         Due.code(x, "letter e 1;word a is eee;");
-        for (int call = 5; call < 512; call++) {
-            x.rain(call % 10);
+        for (int call = 5; call < 511; call++) {
+            x.rain((call + 1) % 10);
         }
         due.is("the 512th call", x.count(9), 1);
     }
@@ -376,28 +376,19 @@ public final class EdgesOfTextTest {
         due.is("letters", x.count(0), 26);
     }
 
-    private static String words(int many) {
-        StringBuilder text = new StringBuilder("letter a 1;letter b 2;letter c 11;");
-        for (int word = 0; word < many; word++) {
-            text.append("word ").append((char) ('a' + word)).append(" is ").append((char) ('a' + word / 9))
-                .append((char) ('a' + word / 3 % 3)).append((char) ('a' + word % 3)).append(';');
-        }
-        return text.toString();
-    }
-
     private static void twentyWordsAndOneMore() {
-        fault(words(19), NONE);
-        fault(words(20), NONE);
-        fault(words(20) + "letter z 222;", NONE);
-        faultBehind(words(20), "word z is ccc;");
-        faultBehind(words(20), "word");
-        faultBehind(words(20), "word ;");
-        faultBehind(words(20), "word a is aaa;");
-        faultBehind(words(20) + "letter z 222;", "word z is ccc;");
-        faultBehind(words(20), "wordz");
+        fault(Due.words(19), NONE);
+        fault(Due.words(20), NONE);
+        fault(Due.words(20) + "letter z 222;", NONE);
+        faultBehind(Due.words(20), "word z is ccc;");
+        faultBehind(Due.words(20), "word");
+        faultBehind(Due.words(20), "word ;");
+        faultBehind(Due.words(20), "word a is aaa;");
+        faultBehind(Due.words(20) + "letter z 222;", "word z is ccc;");
+        faultBehind(Due.words(20), "wordz");
         for (int many = 0; many <= 20; many++) {
             KeyFists x = new KeyFists();
-            due.is("code of " + many + " WORDS", Due.code(x, words(many)), many);
+            due.is("code of " + many + " WORDS", Due.code(x, Due.words(many)), many);
             due.is("WORDS", x.count(1), many);
             due.is("the one behind them", x.group(many), NONE);
             if (many > 0) {
@@ -406,8 +397,8 @@ public final class EdgesOfTextTest {
             }
         }
         KeyFists x = new KeyFists();
-        Due.code(x, words(20));
-        due.is("code of 21 WORDS", Due.code(x, words(20) + "word z is ccc;"), NONE);
+        Due.code(x, Due.words(20));
+        due.is("code of 21 WORDS", Due.code(x, Due.words(20) + "word z is ccc;"), NONE);
         due.is("the CODE stays", x.count(1), 20);
     }
 
@@ -521,7 +512,7 @@ public final class EdgesOfTextTest {
         due.is("mended without WORDS", y.mended(0, 3, NONE), 0);
         due.is("mended without WORDS", y.mended(0, 3, 0), NONE);
         KeyFists z = new KeyFists();
-        Due.code(z, words(20));
+        Due.code(z, Due.words(20));
         due.is("mended of 20 WORDS", z.mended(0, 3, NONE), 20);
         due.is("the last one", z.mended(0, 3, 19), 19);
         due.is("one behind it", z.mended(0, 3, 20), NONE);

@@ -3,8 +3,11 @@ import java.util.Random;
 
 /** Runs of calls drawn by fixed seeds, each answer compared with that of the plain model. */
 public final class ModelTest {
-    private static final int RUNS = 1200;
-    private static final int CALLS = 250;
+    private static final int RUNS = 1500;
+    private static final int STEPS = 250;
+    // An object is used for so many calls; a step takes at most so many of them.
+    private static final int CALLS = 512;
+    private static final int CALLS_OF_A_STEP = 130;
     private static final int NONE = KeyFists.NONE;
 
     private final Due due;
@@ -13,6 +16,7 @@ public final class ModelTest {
     private final KeyFists x = new KeyFists();
     private final PlainModel model = new PlainModel();
     private int wide;
+    private int used;
 
     private ModelTest(Due due, int run) {
         this.due = due;
@@ -47,13 +51,14 @@ public final class ModelTest {
     }
 
     private void say(String call, long got, long want) {
+        used++;
         due.is("run " + run + ": " + call, got, want);
     }
 
     private void runAll() {
         wide = of(3);
         prepare();
-        for (int call = 0; call < CALLS && due.wrong() < 20; call++) {
+        for (int step = 0; step < STEPS && hasRoom() && due.wrong() < 20; step++) {
             switch (run % 5) {
                 case 0:
                     textCall();
@@ -73,7 +78,7 @@ public final class ModelTest {
                     clockCall();
                     break;
             }
-            if (of(30) == 0) {
+            if (of(30) == 0 && hasRoom()) {
                 anyCall();
             }
         }
@@ -83,6 +88,12 @@ public final class ModelTest {
         for (int k = 0; k < model.tape.size(); k++) {
             say("tape(" + k + ")", x.tape(k), model.tape(k));
         }
+        due.is("run " + run + ": calls of one object", used <= CALLS, true);
+    }
+
+    /** Whether one more step can be taken, and all that is asked at the end. */
+    private boolean hasRoom() {
+        return used + CALLS_OF_A_STEP + 12 + model.tape.size() <= CALLS;
     }
 
     private void anyCall() {
@@ -309,8 +320,9 @@ public final class ModelTest {
         int hand = of(Math.max(1, model.hands.size()));
         int line = of(Math.max(1, model.lines.size()));
         StringBuilder text = new StringBuilder();
-        for (int k = 0; k < x.nearest(hand, line, NONE); k++) {
-            text.append((char) x.nearest(hand, line, k));
+        int size = model.nearest(hand, line, NONE);
+        for (int k = 0; k < size; k++) {
+            text.append((char) model.nearest(hand, line, k));
         }
         if (text.length() > 0) {
             text(text.toString());
@@ -340,7 +352,8 @@ public final class ModelTest {
                 say("readings" + couple + ")", x.readings(hand, line), model.readings(hand, line));
                 break;
             case 5:
-                for (k = -4; k <= Math.max(2, x.nearest(hand, line, NONE)); k++) {
+                int size = Math.max(2, model.nearest(hand, line, NONE));
+                for (k = -4; k <= size; k++) {
                     say("nearest" + couple + k + ")", x.nearest(hand, line, k), model.nearest(hand, line, k));
                 }
                 break;

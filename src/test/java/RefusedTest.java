@@ -49,40 +49,54 @@ public final class RefusedTest {
         }
 
         long[] answers(Call call) {
-            long[] answers = new long[questions.size() + deeds.size()];
+            long[] answers = new long[all.size()];
             int at = 0;
             while (at < questions.size()) {
-                KeyFists x = make();
-                if (call != null) {
-                    call.does.applyAsLong(x);
-                }
+                KeyFists x = makeAndCall(call);
                 for (int used = calls + 1; used < CALLS && at < questions.size(); used++) {
                     answers[at] = questions.get(at).does.applyAsLong(x);
                     at++;
                 }
             }
+            for (List<Call> deeds : allDeeds) {
+                KeyFists x = makeAndCall(call);
+                for (Call deed : deeds) {
+                    answers[at] = deed.does.applyAsLong(x);
+                    at++;
+                }
+            }
+            return answers;
+        }
+
+        private KeyFists makeAndCall(Call call) {
             KeyFists x = make();
             if (call != null) {
                 call.does.applyAsLong(x);
             }
-            for (Call deed : deeds) {
-                answers[at] = deed.does.applyAsLong(x);
-                at++;
-            }
-            return answers;
+            return x;
         }
     }
 
     private static final List<Call> questions = new ArrayList<>();
-    private static final List<Call> deeds = new ArrayList<>();
+    // Each list is for an object of its own.
+    private static final List<List<Call>> allDeeds = new ArrayList<>();
+    private static final List<Call> all = new ArrayList<>();
 
     public static void main(String[] args) {
         addQuestions();
-        addDeeds();
+        allDeeds.add(deedsWithTheTape());
+        allDeeds.add(deedsWithFacts());
+        allDeeds.add(deedsWithTheText());
+        all.addAll(questions);
+        for (List<Call> deeds : allDeeds) {
+            all.addAll(deeds);
+        }
         Maker nothing = new Maker("a new object", 0, x -> { });
         Maker some = new Maker("some of all", 60, RefusedTest::makeSome);
         Maker full = new Maker("an object that is full", 260, RefusedTest::makeFull);
-        due.is("deeds fit behind what makes an object", deeds.size() + full.calls < CALLS, true);
+        for (List<Call> deeds : allDeeds) {
+            due.is("deeds fit behind what makes an object", deeds.size() + full.calls < CALLS, true);
+        }
         due.is("the CLOCKS CAN BE", some.make().first(0, 1) == 1 && full.make().first(0, 0) == 0, true);
         for (Maker maker : new Maker[] {nothing, some, full}) {
             for (Call call : never()) {
@@ -113,8 +127,7 @@ public final class RefusedTest {
         long[] answers = maker.answers(call);
         for (int at = 0; at < answers.length; at++) {
             if (answers[at] != maker.answers[at]) {
-                Call question = at < questions.size() ? questions.get(at) : deeds.get(at - questions.size());
-                due.is(question.name + " behind " + call.name + " by " + maker.name, answers[at], maker.answers[at]);
+                due.is(all.get(at).name + " behind " + call.name + " by " + maker.name, answers[at], maker.answers[at]);
                 return;
             }
         }
@@ -166,12 +179,7 @@ public final class RefusedTest {
     }
 
     private static void makeFull(KeyFists x) {
-        StringBuilder text = new StringBuilder("letter a 1;letter b 2;letter c 11;");
-        for (int word = 0; word < 20; word++) {
-            text.append("word ").append((char) ('a' + word)).append(" is ").append((char) ('a' + word / 9))
-                .append((char) ('a' + word / 3 % 3)).append((char) ('a' + word % 3)).append(';');
-        }
-        Due.code(x, text.toString());
+        Due.code(x, Due.words(20));
         for (int number = 0; number < 8; number++) {
             x.hand(10020 + number, 30050, 10015, 16030, 31060);
             x.line(number % 4, (number + 1) % 6, number, number);
@@ -181,7 +189,7 @@ public final class RefusedTest {
             x.length(length % 2 == 0 ? 15 : 20);
         }
         for (int message = 0; message < 20; message++) {
-            x.message(1, message * 101 + 1, message % 4);
+            x.message(1, message % 3 * 100 + message % 7 + 1, message % 4);
         }
         for (int event = 0; event < 12; event++) {
             x.event(event % 6, event * 10);
@@ -237,6 +245,11 @@ public final class RefusedTest {
             questions.add(call("tap(1, " + m + ")", x -> x.tap(1, m)));
             questions.add(call("tap(2, " + m + ")", x -> x.tap(2, m)));
         }
+        for (int event = 0; event <= 12; event++) {
+            int e = event;
+            questions.add(call("apart(0, " + e + ", 0)", x -> x.apart(0, e, 0)));
+            questions.add(call("apart(0, " + e + ", 1)", x -> x.apart(0, e, 1)));
+        }
         for (int one = 0; one < 6; one++) {
             for (int other = 0; other < 6; other++) {
                 int a = one;
@@ -264,40 +277,69 @@ public final class RefusedTest {
 
     // What can be done then, in this order: all of it tells what the object holds
 
-    private static void addDeeds() {
-        deeds.add(call("key(0, 0, 5)", x -> x.key(0, 0, 5)));
-        deeds.add(call("tape(0)", x -> x.tape(0)));
+    private static List<Call> deedsWithTheTape() {
+        List<Call> deeds = new ArrayList<>();
+        deeds.add(call("length(77)", x -> x.length(77)));
+        deeds.add(call("cut(119)", x -> told(x.cut(119))));
+        for (int hand = 0; hand < 8; hand++) {
+            int h = hand;
+            deeds.add(call("readings(" + h + ", 0)", x -> x.readings(h, 0)));
+            deeds.add(call("nearest(" + h + ", 0, -2)", x -> x.nearest(h, 0, -2)));
+        }
+        deeds.add(call("cut(3)", x -> told(x.cut(3))));
+        for (int hand = 0; hand < 8; hand++) {
+            int h = hand;
+            deeds.add(call("nearest(" + h + ", 0, -2)", x -> x.nearest(h, 0, -2)));
+        }
+        deeds.add(call("end(5)", x -> told(x.end(5))));
+        for (int hand = 0; hand < 8; hand++) {
+            int h = hand;
+            deeds.add(call("key(" + h + ", 0, 5)", x -> x.key(h, 0, 5)));
+            for (int k = 0; k < 12; k++) {
+                int n = k;
+                deeds.add(call("tape(" + k + ")", x -> x.tape(n)));
+            }
+        }
         deeds.add(call("hand(..)", x -> x.hand(10020, 10020, 10020, 10020, 10020)));
         deeds.add(call("line(3, 4, 1, 1)", x -> x.line(3, 4, 1, 1)));
-        deeds.add(call("length(77)", x -> x.length(77)));
+        deeds.add(call("rain(1)", x -> told(x.rain(1))));
+        deeds.add(call("bite(1)", x -> x.bite(1)));
+        deeds.add(call("cut(1)", x -> told(x.cut(1))));
+        deeds.add(call("tape(0)", x -> x.tape(0)));
+        return deeds;
+    }
+
+    private static List<Call> deedsWithFacts() {
+        List<Call> deeds = new ArrayList<>();
         deeds.add(call("message(34, 105, 2)", x -> x.message(34, 105, 2)));
         deeds.add(call("event(2, 7)", x -> x.event(2, 7)));
         deeds.add(call("fact(0, 1, 1)", x -> x.fact(0, 1, 1)));
         for (int fact = 0; fact < 13; fact++) {
             deeds.add(call("undo()", x -> x.undo()));
-            for (int event = 1; event < 5; event++) {
+            for (int event = 1; event < 6; event++) {
                 int e = event;
                 deeds.add(call("apart(0, " + e + ", 0)", x -> x.apart(0, e, 0)));
                 deeds.add(call("apart(0, " + e + ", 1)", x -> x.apart(0, e, 1)));
             }
         }
-        // each byte of the text in its turn at the end of it
+        return deeds;
+    }
+
+    private static List<Call> deedsWithTheText() {
+        List<Call> deeds = new ArrayList<>();
+        deeds.add(call("cut(1)", x -> told(x.cut(1))));
         deeds.add(call("code()", x -> x.code()));
+        // each byte of the text in its turn at the end of it
         for (int end = 499; end >= 0; end -= end > 30 ? 60 : 1) {
             int n = end;
             deeds.add(call("end(" + n + ")", x -> told(x.end(n))));
-            if (end <= 30 && end % 3 == 0) {
-                deeds.add(call("suspects(-1)", x -> x.suspects(NONE)));
-            }
+            deeds.add(call("suspects(-1)", x -> x.suspects(NONE)));
         }
         deeds.add(call("feed(..)", x -> x.feed(0x6C657474, 0x65722071, 0x20313B20, 0x20202020, 0x20202020)));
         deeds.add(call("fault()", x -> x.fault()));
         deeds.add(call("code()", x -> x.code()));
         deeds.add(call("marks(16)", x -> x.marks(16)));
-        deeds.add(call("rain(1)", x -> told(x.rain(1))));
-        deeds.add(call("bite(1)", x -> x.bite(1)));
-        deeds.add(call("cut(1)", x -> told(x.cut(1))));
-        deeds.add(call("tape(0)", x -> x.tape(0)));
+        return deeds;
     }
 
     // What no object takes
@@ -428,12 +470,16 @@ public final class RefusedTest {
         calls.add(refused("feed(1, 2, 3, 4, 5)", x -> x.feed(1, 2, 3, 4, 5)));
         calls.add(refused("code() of 500 bytes", x -> x.code()));
         calls.add(refused("the ninth HAND", x -> x.hand(1001, 1001, 1001, 1001, 1001)));
+        calls.add(refused("the ninth HAND, another", x -> x.hand(1255, 1255, 1255, 1255, 1255)));
         calls.add(refused("the ninth LINE", x -> x.line(0, 5, 1, 1)));
         calls.add(refused("the 121st length", x -> x.length(7)));
         calls.add(refused("key of 500 letters", x -> x.key(0, 0, 0)));
         calls.add(refused("the 21st MESSAGE", x -> x.message(1, 1, 3)));
+        calls.add(refused("the 21st MESSAGE, another", x -> x.message(12, 20060, 2)));
         calls.add(refused("the 13th EVENT", x -> x.event(0, 1)));
+        calls.add(refused("the 13th EVENT, another", x -> x.event(5, 999)));
         calls.add(refused("the 13th FACT", x -> x.fact(5, 0, 99)));
+        calls.add(refused("the 13th FACT, another", x -> x.fact(0, 3, -1)));
         calls.add(refused("group(20)", x -> x.group(20)));
         calls.add(refused("tape(120)", x -> x.tape(120)));
         calls.add(refused("readings of a TAPE that isn't WHOLE", x -> x.readings(0, 0)));
