@@ -358,6 +358,11 @@ public final class EdgesOfTextTest {
         fault(first + "letter a 11;letter b 22;letter c 12;letter d 111;", NONE);
         faultBehind(first + "word ", "n is ttt;");
         faultBehind(first + "word ", "n is eee;");
+        // alike, though what stands behind it isn't
+        faultBehind(first + "word ", "n\nis ttt;");
+        faultBehind(first + "word ", "n;");
+        faultBehind(first + "word ", "n");
+        faultBehind("letter e 1;letter t 2;word ab\nis eee;word ", "ab is ttt;");
         faultBehind(first + "word m is ", "eee;");
         fault(first + "word nn is eet;word m is tee;word mn is ete;", NONE);
         fault("letter e 1;word eeeeeeee is eee;letter t 2;word eeeeeee is eet;word eeeeeeet is ttt;", NONE);
